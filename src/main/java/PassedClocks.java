@@ -1440,8 +1440,10 @@ public final class PassedClocks {
 
         private void settle(int slot, int atHour) {
             if (atHour > since[slot]) {
+                // Since its last deed a thing went one way, so it was widest off in the first or last hour of these.
                 if (watched) {
-                    noteWidest(slot, atHour - 1);
+                    noteWidest(off[slot]);
+                    noteWidest(offAt(slot, atHour - 1));
                 }
                 off[slot] = offAt(slot, atHour);
                 since[slot] = atHour;
@@ -1463,24 +1465,19 @@ public final class PassedClocks {
             return offAt(slot, hour > 0 ? hour - 1 : 0);
         }
 
-        /** Between two deeds a thing goes one way, so it is widest off at the first or last hour of them. */
-        private void noteWidest(int slot, int untilHour) {
-            int atFirst = off[slot];
-            int atLast = offAt(slot, untilHour);
-            int most = atFirst > atLast ? atFirst : atLast;
-            int least = atFirst < atLast ? atFirst : atLast;
-            if (most > widest) {
-                widest = most;
-            }
-            if (-least > widest) {
-                widest = -least;
+        private void noteWidest(int seconds) {
+            int wide = seconds < 0 ? -seconds : seconds;
+            if (wide > widest) {
+                widest = wide;
             }
         }
 
         /** What settling alone has not come to yet. */
         void noteAll() {
             for (int thing = 0; thing < plan.told.things() && hour > 0; thing++) {
-                noteWidest(plan.told.slotOf(thing), hour - 1);
+                int slot = plan.told.slotOf(thing);
+                noteWidest(off[slot]);
+                noteWidest(offNow(slot));
             }
         }
 
