@@ -196,6 +196,20 @@ public final class ComparedTest {
     return s.toString();
   }
 
+  /** Behind 1900 hours, passings along this way drive the watch p to the limit. */
+  private String driven() {
+    int gain = 5 * below(3) - 5;
+    return "clock a 36000 gains 600;clock b -36000 gains -600;clock c 7;person p " + -1899 * gain + " middle 5 gains " + gain
+        + ";person q 5 " + one(List.of("sets", "half", "takes if ahead*ahead<99999", "part 7 9")) + ";round q c 60;";
+  }
+
+  private void drive() {
+    for (int hours : new int[] {500, 500, 500, 400}) hours(hours);
+    String way = chance(50) ? PromisesTest.UP : PromisesTest.DOWN;
+    for (int i = 0; i < way.length(); i++) pass(0, way.charAt(i) - 'a');
+    hours(below(90));
+  }
+
   private String text() {
     if (chance(4)) return manyKnots();
     if (chance(3)) return manyOpen();
@@ -208,8 +222,7 @@ public final class ComparedTest {
     return s;
   }
 
-  private void feedText() {
-    String s = text();
+  private void feedText(String s) {
     int n = s.length();
     int fed = 0;
     StringBuilder b = new StringBuilder(s);
@@ -236,6 +249,15 @@ public final class ComparedTest {
 
   private long feed(int a, int b, int c, int d, int e) {
     return alike("feed(" + a + ", " + b + ", " + c + ", " + d + ", " + e + ")", quick.feed(a, b, c, d, e), plain.feed(a, b, c, d, e));
+  }
+
+  private void hours(int n) {
+    alike("hours(" + n + ")", quick.hours(n), plain.hours(n));
+    hour = plain.count(6);
+  }
+
+  private void pass(int person, int clock) {
+    alike("pass(" + person + ", " + clock + ")", quick.pass(person, clock), plain.pass(person, clock));
   }
 
   private void text(int n) { alike("text(" + n + ")", quick.text(n), plain.text(n)); }
@@ -270,8 +292,10 @@ public final class ComparedTest {
     try {
       if (chance(15)) for (int i = 0; i < 20; i++) call(NAMES[below(NAMES.length)], -1);
       for (int texts = 1 + below(3); texts > 0; texts--) {
-        feedText();
-        boolean far = chance(swings ? 60 : 6);
+        boolean limit = below(200) == 0;
+        feedText(limit ? driven() : text());
+        if (limit) drive();
+        boolean far = !limit && chance(swings ? 60 : 6);
         for (int i = far ? 4 : chance(70) ? 1 : 0; i > 0; i--) call("hours", far ? 500 : -1);
         for (int i = 60; i > 0; i--) call(NAMES[below(NAMES.length)], far ? 500 : -1);
       }
@@ -310,8 +334,7 @@ public final class ComparedTest {
       case "round": a = upTo(12); b = upTo(2); alike("round(" + a + ", " + b + ")", quick.round(a, b), plain.round(a, b)); break;
       case "hours":
         a = edge(more > 400 ? 200 + below(310) : chance(30) ? below(200) : below(40));
-        alike("hours(" + a + ")", quick.hours(a), plain.hours(a));
-        hour = plain.count(6);
+        hours(a);
         break;
       case "off": a = thing(); alike("off(" + a + ")", quick.off(a), plain.off(a)); break;
       case "now": a = person(); b = upTo(2); alike("now(" + a + ", " + b + ")", quick.now(a, b), plain.now(a, b)); break;
@@ -320,7 +343,7 @@ public final class ComparedTest {
       case "pass":
         a = person();
         b = clock();
-        for (int i = chance(10) ? 15 : 1; i > 0; i--) alike("pass(" + a + ", " + b + ")", quick.pass(a, b), plain.pass(a, b));
+        for (int i = chance(10) ? 15 : 1; i > 0; i--) pass(a, b);
         break;
       case "row":
         a = edge(below(14));

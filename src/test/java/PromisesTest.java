@@ -79,6 +79,7 @@ public final class PromisesTest {
     gunsAndRounds();
     passings();
     customs();
+    limits();
     rows();
     rules();
     rulesAtWork();
@@ -178,6 +179,13 @@ public final class PromisesTest {
     due("no place", x.fault(1), -1);
     x.reading(0, 0, 8, 8);
     due("all known", x.count(5), 1);
+    feed(x, "clock abcdefg 5;    ");
+    due("a text that ends within a word", x.text(12), -1);
+    due("its letters are six", x.fault(1), 12);
+    feed(x, "clock c 360001;     ");
+    due("a text that ends within a number", x.text(13), -1);
+    due("it is not beyond", x.fault(0), 1);
+    due("its place", x.fault(1), 13);
     due("blanks", text(x, " \nclock\n\nc-5gains-3rough 2 ;\n"), 1);
     due("off", x.off(0), -5);
     due("gain", x.clock(0, 1), -3);
@@ -234,6 +242,12 @@ public final class PromisesTest {
     fault("person c 1 sets;person c 1 sets;", 3, 23);
     fault("person p 1 clock;", 1, 11);
     fault("person p sets;", 1, 9);
+    fault("person p 1;", 1, 10);
+    fault("person p 1 gains 5;", 1, 11);
+    fault("person p 1", 1, 10);
+    fault(";".repeat(700), 1, 0);
+    fault("<".repeat(700), 1, 0);
+    fault("clock c 1;" + " ".repeat(689) + "<", 1, 699);
     fault("person p 1 part 60 60;", 0, -1);
     fault("person p 1 part 61 61;", 2, 16);
     fault("person p 1 part 0 5;", 2, 16);
@@ -529,6 +543,44 @@ public final class PromisesTest {
     due("-4, -3, 5, 8: the second", x.off(4), 3);
     x.pass(0, 2);
     due("-4, 8, -3, 6: the second", x.off(4), 0);
+  }
+
+  /** Passings of a clock far ahead and one far behind that drive a watch to the limit: found by search, for hour 1900. */
+  static final String UP = "bbaaaabaabbabbaabbbbaaaaabbbbbabaaaaabaaaabbbaabbaaaaaaabaaaabbbaabbaa"
+      + "aaaaabaaaabbbaaaaaaaaaaaabbaaabbaaaaaaabbbaabbaaaaaaabaaaabba";
+  static final String DOWN = "bbaaaabbbbbaaaaaabbbaabaabbbbbaaaaaaabaaaabbbaabbaaaaaaabaaaabbbaabbaa"
+      + "aaaaabaaaabbbaaaaaaaaaaaabbaaabbaaaaaaabbbaabbaaaaaaabaa";
+
+  private static PassedClocks driven(String way, String person) {
+    PassedClocks x = after(1900, "clock a 36000 gains 600;clock b -36000 gains -600;person p " + person + ";person q 0 sets;");
+    due("nothing yet", x.off(2), 0);
+    for (int i = 0; i < way.length(); i++) x.pass(0, way.charAt(i) - 'a');
+    return x;
+  }
+
+  private static void limits() {
+    promise = 14;
+    int ahead = 36000 + 600 * 1899;
+    PassedClocks x = driven(UP, "-18990 middle 5 gains 10");
+    due("no more than that", x.off(2), 1000000000);
+    due("spread", x.spread(1899), 1000000000 + ahead);
+    due("waits", x.waits(0, 1), 1000000000);
+    x.hours(3);
+    due("it stays so", x.was(2, 1900), 1000000000);
+    due("it stays so", x.off(2), 1000000000);
+    x = driven(UP, "18990 middle 5 gains -10");
+    x.hours(3);
+    due("it goes down from there", x.off(2), 1000000000 - 30);
+    x = driven(DOWN, "18990 middle 5 gains -10");
+    due("no less than that", x.off(2), -1000000000);
+    x.hours(3);
+    due("it stays so", x.off(2), -1000000000);
+    due("waits", x.waits(1, 0), 1000000000);
+    x.pass(0, 0);
+    due("ahead by so much", x.now(0, 0), 1000000000 + ahead + 1800);
+    x = driven(DOWN, "-18990 middle 5 gains 10");
+    x.hours(3);
+    due("it goes up from there", x.off(2), -1000000000 + 30);
   }
 
   private static void rows() {
@@ -938,6 +990,9 @@ public final class PromisesTest {
     due("not by hand", x.purpose(0, 0, 0, true, 1), 125);
     x.hours(1);
     due("an hour on", x.purpose(0, 0, 0, true, 1), 130);
+    text(x, "clock a 0 gains 5;person p 50 sets;round p a 4;");
+    x.hours(11);
+    due("of another text", x.purpose(0, 0, 0, true, 1), 80);
     x = after(6, "clock a 0;person p 100 takes;person q 7 sets;round q a 3;");
     due("behind all rounds of the hour", x.purpose(0, 0, 1, true, 0), 3);
     due("he takes 7", x.purpose(0, 0, 1, true, 1), 7);
