@@ -927,7 +927,7 @@ public final class PassedClocks {
             return tokens.kind[at];
         }
 
-        private void goOn() {
+        private void step() {
             if (at + 1 < tokens.count) {
                 at++;
             }
@@ -943,7 +943,7 @@ public final class PassedClocks {
 
         private void expect(int tokenKind) {
             if (kind() == tokenKind) {
-                goOn();
+                step();
             } else {
                 refuse(MISPLACED);
             }
@@ -955,7 +955,7 @@ public final class PassedClocks {
                 refuse(TOO_MUCH);
                 return;
             }
-            goOn();
+            step();
             readNewName(0, clock);
             told.first[clock] = readSigned(MOST_OFF_AT_FIRST);
             readRest(clock, NONE);
@@ -968,7 +968,7 @@ public final class PassedClocks {
                 refuse(TOO_MUCH);
                 return;
             }
-            goOn();
+            step();
             readNewName(FIRST_WATCH, person);
             told.first[FIRST_WATCH + person] = readSigned(MOST_OFF_AT_FIRST);
             readCustom(person);
@@ -982,7 +982,7 @@ public final class PassedClocks {
                 refuse(TOO_MUCH);
                 return;
             }
-            goOn();
+            step();
             told.roundPerson[round] = readToldName(FIRST_WATCH, told.people);
             told.roundClock[round] = readToldName(0, told.clocks);
             told.roundHour[round] = readNumber(0, HOURS_OF_WEEK - 1);
@@ -995,7 +995,7 @@ public final class PassedClocks {
                 refuse(TOO_MUCH);
                 return;
             }
-            goOn();
+            step();
             told.gunClock[gun] = readToldName(0, told.clocks);
             told.gunHour[gun] = readNumber(0, HOURS_OF_WEEK - 1);
             told.guns++;
@@ -1010,7 +1010,7 @@ public final class PassedClocks {
                 refuse(TOLD_ALREADY);
             } else {
                 told.name[fromSlot + names] = letters;
-                goOn();
+                step();
             }
         }
 
@@ -1021,7 +1021,7 @@ public final class PassedClocks {
             } else if (found == NONE) {
                 refuse(NOT_TOLD);
             } else {
-                goOn();
+                step();
                 return found;
             }
             return 0;
@@ -1034,7 +1034,7 @@ public final class PassedClocks {
             } else if (number < least || number > most) {
                 refuse(TOO_MUCH);
             } else {
-                goOn();
+                step();
                 return number;
             }
             return 0;
@@ -1042,7 +1042,7 @@ public final class PassedClocks {
 
         private int readSigned(int most) {
             if (kind() == MINUS) {
-                goOn();
+                step();
                 return -readNumber(0, most);
             }
             return readNumber(0, most);
@@ -1054,7 +1054,7 @@ public final class PassedClocks {
                 refuse(MISPLACED);
                 return;
             }
-            goOn();
+            step();
             told.custom[person] = custom;
             if (custom == PART_CUSTOM) {
                 told.part[person] = readNumber(1, 60);
@@ -1079,7 +1079,7 @@ public final class PassedClocks {
                     return;
                 }
                 seen |= bit;
-                goOn();
+                step();
                 if (word == GAINS) {
                     told.gain[slot] = readSigned(MOST_GAIN);
                 } else if (word == ROUGH) {
@@ -1098,7 +1098,7 @@ public final class PassedClocks {
                 refuse(TOO_MUCH);
             } else {
                 knots++;
-                goOn();
+                step();
             }
         }
 
@@ -1174,7 +1174,7 @@ public final class PassedClocks {
             } else if (part == OPEN && open >= MOST_OPEN) {
                 refuse(TOO_MUCH);
             } else if (part == OPEN) {
-                goOn();
+                step();
                 readEither(open + 1);
                 expect(CLOSE);
             } else {
